@@ -296,7 +296,18 @@ public final class PuppetBar {
     // ---- kinds, images
 
     public int mark(int kind, int l) {
-        return isLimb(l) ? kinds.markAs(kind, doll, scene.pose, l) : NO;
+        if (!isLimb(l)) {
+            return NO;
+        }
+        switch (kind) {
+            case 0: return kinds.asLimb(doll, scene.pose, l);
+            case 1: return kinds.asHead(doll, scene.pose, l);
+            case 2: return kinds.asFoot(doll, scene.pose, l);
+            case 3: return kinds.asCrown(doll, scene.pose, l);
+            case 4: return kinds.asToe(doll, scene.pose, l);
+            case 5: return kinds.asHand(doll, scene.pose, l);
+            default: return NO;
+        }
     }
 
     public int keep(int image) {
@@ -1158,44 +1169,32 @@ public final class PuppetBar {
             return trace;
         }
 
-        int markAs(int kind, Doll doll, Pose now, int l) {
-            switch (kind) {
-                case 0: return asLimb(doll, now, l);
-                case 1: return asHead(doll, now, l);
-                case 2: return asFoot(doll, now, l);
-                case 3: return asCrown(doll, now, l);
-                case 4: return asToe(doll, now, l);
-                case 5: return asHand(doll, now, l);
-                default: return NO;
-            }
-        }
-
-        private int asLimb(Doll doll, Pose now, int l) {
+        int asLimb(Doll doll, Pose now, int l) {
             trace += 1;
             return doll.height(now, l);
         }
 
-        private int asHead(Doll doll, Pose now, int l) {
+        int asHead(Doll doll, Pose now, int l) {
             trace += 10;
             return asLimb(doll, now, l) + doll.weight[l];
         }
 
-        private int asFoot(Doll doll, Pose now, int l) {
+        int asFoot(Doll doll, Pose now, int l) {
             trace += 100;
             return asLimb(doll, now, l) - doll.bone[l];
         }
 
-        private int asCrown(Doll doll, Pose now, int l) {
+        int asCrown(Doll doll, Pose now, int l) {
             trace += 1000;
             return asHead(doll, now, l) * 2;
         }
 
-        private int asToe(Doll doll, Pose now, int l) {
+        int asToe(Doll doll, Pose now, int l) {
             trace += 10000;
             return asFoot(doll, now, l) + l;
         }
 
-        private int asHand(Doll doll, Pose now, int l) {
+        int asHand(Doll doll, Pose now, int l) {
             trace += 100000;
             return asLimb(doll, now, l) + now.lift();
         }
