@@ -1,6 +1,8 @@
 /** Counts and prints the answers that are not as due; what all tests of the project share. */
 final class Check {
     private final String name;
+    private String words = "";
+    private int sentences;
     private int asked;
     private int wrong;
 
@@ -8,11 +10,17 @@ final class Check {
         this.name = name;
     }
 
+    /** What is asked from here on belongs to these words of the document. */
+    void sentence(String ofTheDocument) {
+        words = " [" + ofTheDocument + "]";
+        sentences++;
+    }
+
     void due(String call, long got, long want) {
         asked++;
         if (got != want) {
             wrong++;
-            System.out.println(name + ": " + call + " answered " + got + ", due is " + want);
+            System.out.println(name + words + ": " + call + " answered " + got + ", due is " + want);
         }
     }
 
@@ -20,8 +28,20 @@ final class Check {
         due(what, holds ? 1 : 0, 1);
     }
 
+    /** What puppet() answers to this text on a new object, and that the text is gone just if it is good. */
+    void reads(String text, int answer) {
+        PuppetBar bar = new PuppetBar();
+        due("'" + text + "'", read(bar, text), answer);
+        due("bytes behind '" + text + "'", bar.count(5), answer < 0 ? text.length() : 0);
+    }
+
+    void fault(String text, int place) {
+        reads(text, -10 - place);
+    }
+
     void end() {
-        System.out.println(name + ": " + asked + " asked, " + wrong + " wrong");
+        String ofSentences = sentences == 0 ? "" : " of " + sentences + " sentences";
+        System.out.println(name + ": " + asked + " asked" + ofSentences + ", " + wrong + " wrong");
         if (wrong != 0 || asked == 0) {
             System.exit(1);
         }

@@ -47,112 +47,102 @@ public final class TextTest {
         CHECK.due("room again", bar.type(' '), 1);
     }
 
-    private static void reads(String text, int answer) {
-        PuppetBar bar = new PuppetBar();
-        CHECK.due("'" + text + "'", Check.read(bar, text), answer);
-        CHECK.due("bytes behind '" + text + "'", bar.count(5), answer < 0 ? text.length() : 0);
-    }
-
-    private static void fault(String text, int place) {
-        reads(text, -10 - place);
-    }
-
     private static void itemsOfGoodTexts() {
-        reads("", 0);
-        reads("    ", 0);
-        reads("u0;", 1);
-        reads(" u 40 ; t 6 ; ", 2);
-        reads("b40 6;b0 0;", 2);
-        reads("l 0 0 9;l0 9 1;s1 6 40 40;s0 0 0 1;b1 1;u1;t1;", 7);
-        reads("t6;u7;b9 3;l0 0 1;s0 0 0 1;l0 1 1;", 6);
-        reads("l0 0 1;l0 1 1;l1 1 1;l2 1 1;l3 1 1;l4 1 1;l5 1 1;l6 1 1;", 8);
+        CHECK.reads("", 0);
+        CHECK.reads("    ", 0);
+        CHECK.reads("u0;", 1);
+        CHECK.reads(" u 40 ; t 6 ; ", 2);
+        CHECK.reads("b40 6;b0 0;", 2);
+        CHECK.reads("l 0 0 9;l0 9 1;s1 6 40 40;s0 0 0 1;b1 1;u1;t1;", 7);
+        CHECK.reads("t6;u7;b9 3;l0 0 1;s0 0 0 1;l0 1 1;", 6);
+        CHECK.reads("l0 0 1;l0 1 1;l1 1 1;l2 1 1;l3 1 1;l4 1 1;l5 1 1;l6 1 1;", 8);
     }
 
     private static void faultsOfTokens() {
-        fault("L0 0 1;", 0);
-        fault("  \t", 2);
-        fault("l0\t0 1;", 2);
-        fault("l0 0 1-;", 6);
-        fault("l0 0 1;" + (char) 0, 7);
-        fault("l0 0 1;" + (char) 255, 7);
-        fault("l0 0 /;", 5);
-        fault("l0 0 :;", 5);
-        fault("`0;", 0);
-        fault("{0;", 0);
-        fault("l00 0 1;", 1);
-        fault("l0 00 1;", 3);
-        fault("l0 0 01;", 5);
-        fault("l0 0 100;", 5);
-        fault("l0 0 1;l0 4294967297 1;", 10);
-        fault("l" + "9".repeat(169), 1);
-        fault("l" + "0".repeat(169), 1);
-        fault("u020;", 1);
+        CHECK.fault("L0 0 1;", 0);
+        CHECK.fault("  \t", 2);
+        CHECK.fault("l0\t0 1;", 2);
+        CHECK.fault("l0 0 1-;", 6);
+        CHECK.fault("l0 0 1;" + (char) 0, 7);
+        CHECK.fault("l0 0 1;" + (char) 255, 7);
+        CHECK.fault("l0 0 /;", 5);
+        CHECK.fault("l0 0 :;", 5);
+        CHECK.fault("`0;", 0);
+        CHECK.fault("{0;", 0);
+        CHECK.fault("l00 0 1;", 1);
+        CHECK.fault("l0 00 1;", 3);
+        CHECK.fault("l0 0 01;", 5);
+        CHECK.fault("l0 0 100;", 5);
+        CHECK.fault("l0 0 1;l0 4294967297 1;", 10);
+        CHECK.fault("l" + "9".repeat(169), 1);
+        CHECK.fault("l" + "0".repeat(169), 1);
+        CHECK.fault("u020;", 1);
     }
 
     private static void faultsOfItems() {
-        fault(";", 0);
-        fault("5", 0);
-        fault("x0;", 0);
-        fault("  x", 2);
-        fault("ll0 0 1;", 0);
-        fault("limb", 0);
-        fault("la0 0 1;", 0);
-        fault("lz0 0 1;", 0);
-        fault("l;", 1);
-        fault("l0;", 2);
-        fault("l0 0;", 4);
-        fault("l0 0 1 1;", 7);
-        fault("l0 0 1 l", 7);
-        fault("l0 0 l;", 5);
-        fault("l u;", 2);
-        fault("l0 0 1;;", 7);
-        fault("u20 3;", 4);
-        fault("t;", 1);
-        fault("b0;", 2);
-        fault("l0 0 1;s0 0 0;", 13);
-        fault("l0 0 1;s0 0 0 1 1;", 16);
+        CHECK.fault(";", 0);
+        CHECK.fault("5", 0);
+        CHECK.fault("x0;", 0);
+        CHECK.fault("  x", 2);
+        CHECK.fault("ll0 0 1;", 0);
+        CHECK.fault("limb", 0);
+        CHECK.fault("la0 0 1;", 0);
+        CHECK.fault("lz0 0 1;", 0);
+        CHECK.fault("l;", 1);
+        CHECK.fault("l0;", 2);
+        CHECK.fault("l0 0;", 4);
+        CHECK.fault("l0 0 1 1;", 7);
+        CHECK.fault("l0 0 1 l", 7);
+        CHECK.fault("l0 0 l;", 5);
+        CHECK.fault("l u;", 2);
+        CHECK.fault("l0 0 1;;", 7);
+        CHECK.fault("u20 3;", 4);
+        CHECK.fault("t;", 1);
+        CHECK.fault("b0;", 2);
+        CHECK.fault("l0 0 1;s0 0 0;", 13);
+        CHECK.fault("l0 0 1;s0 0 0 1 1;", 16);
     }
 
     private static void faultsOfNumbers() {
-        fault("l1 0 1;", 1);
-        fault("l0 1 1;", 3);
-        fault("l0 0 0;", 5);
-        fault("l0 0 10;", 5);
-        fault("l0 0 1;l1 1 1;", 8);
-        fault("l0 0 1;l0 0 1;", 10);
-        fault("l0 0 1;l0 10 1;", 10);
-        fault("l0 0 1;l0 1 0;", 12);
-        fault("l0 0 1;l0 1 10;", 12);
-        fault("s0 0 0 1;", 1);
-        fault("l0 0 1;s1 0 0 1;", 8);
-        fault("l0 0 1;s0 7 0 1;", 10);
-        fault("l0 0 1;s0 0 41 1;", 12);
-        fault("l0 0 1;s0 0 0 0;", 14);
-        fault("l0 0 1;s0 0 0 41;", 14);
-        fault("b41 0;", 1);
-        fault("b0 7;", 3);
-        fault("u41;", 1);
-        fault("t7;", 1);
+        CHECK.fault("l1 0 1;", 1);
+        CHECK.fault("l0 1 1;", 3);
+        CHECK.fault("l0 0 0;", 5);
+        CHECK.fault("l0 0 10;", 5);
+        CHECK.fault("l0 0 1;l1 1 1;", 8);
+        CHECK.fault("l0 0 1;l0 0 1;", 10);
+        CHECK.fault("l0 0 1;l0 10 1;", 10);
+        CHECK.fault("l0 0 1;l0 1 0;", 12);
+        CHECK.fault("l0 0 1;l0 1 10;", 12);
+        CHECK.fault("s0 0 0 1;", 1);
+        CHECK.fault("l0 0 1;s1 0 0 1;", 8);
+        CHECK.fault("l0 0 1;s0 7 0 1;", 10);
+        CHECK.fault("l0 0 1;s0 0 41 1;", 12);
+        CHECK.fault("l0 0 1;s0 0 0 0;", 14);
+        CHECK.fault("l0 0 1;s0 0 0 41;", 14);
+        CHECK.fault("b41 0;", 1);
+        CHECK.fault("b0 7;", 3);
+        CHECK.fault("u41;", 1);
+        CHECK.fault("t7;", 1);
     }
 
     private static void faultsOfTooMany() {
-        fault("u0;u0;", 3);
-        fault("t0; t0;", 4);
-        fault("l0 0 1;l0 1 1;l0 1 1;l0 1 1;l0 1 1;l0 1 1;l0 1 1;l0 1 1;l", 56);
-        fault("l0 0 1;" + "s0 0 0 1;".repeat(6) + "s0 0 0 1;", 61);
-        fault("b0 0;".repeat(7) + "b0 0;", 35);
-        reads("l0 0 1;" + "s0 0 0 1;".repeat(6) + "b0 0;".repeat(7), 14);
+        CHECK.fault("u0;u0;", 3);
+        CHECK.fault("t0; t0;", 4);
+        CHECK.fault("l0 0 1;l0 1 1;l0 1 1;l0 1 1;l0 1 1;l0 1 1;l0 1 1;l0 1 1;l", 56);
+        CHECK.fault("l0 0 1;" + "s0 0 0 1;".repeat(6) + "s0 0 0 1;", 61);
+        CHECK.fault("b0 0;".repeat(7) + "b0 0;", 35);
+        CHECK.reads("l0 0 1;" + "s0 0 0 1;".repeat(6) + "b0 0;".repeat(7), 14);
     }
 
     private static void textsThatEndTooEarly() {
-        fault("l", 1);
-        fault("l ", 2);
-        fault("l0", 2);
-        fault("l0 0 1", 6);
-        fault("l0 0 1   ", 9);
-        fault("u", 1);
-        fault("b4", 2);
-        fault("l0 0 1;s0 0 0 1", 15);
+        CHECK.fault("l", 1);
+        CHECK.fault("l ", 2);
+        CHECK.fault("l0", 2);
+        CHECK.fault("l0 0 1", 6);
+        CHECK.fault("l0 0 1   ", 9);
+        CHECK.fault("u", 1);
+        CHECK.fault("b4", 2);
+        CHECK.fault("l0 0 1;s0 0 0 1", 15);
     }
 
     private static void aFaultChangesNothing() {
