@@ -1,8 +1,11 @@
+import java.util.HashSet;
+import java.util.Set;
+
 /** Counts and prints the answers that are not as due; what all tests of the project share. */
 final class Check {
     private final String name;
+    private final Set<String> sentences = new HashSet<>();
     private String words = "";
-    private int sentences;
     private int asked;
     private int wrong;
 
@@ -13,7 +16,7 @@ final class Check {
     /** What is asked from here on belongs to these words of the document. */
     void sentence(String ofTheDocument) {
         words = " [" + ofTheDocument + "]";
-        sentences++;
+        sentences.add(ofTheDocument);
     }
 
     void due(String call, long got, long want) {
@@ -40,7 +43,7 @@ final class Check {
     }
 
     void end() {
-        String ofSentences = sentences == 0 ? "" : " of " + sentences + " sentences";
+        String ofSentences = sentences.isEmpty() ? "" : " of " + sentences.size() + " sentences";
         System.out.println(name + ": " + asked + " asked" + ofSentences + ", " + wrong + " wrong");
         if (wrong != 0 || asked == 0) {
             System.exit(1);

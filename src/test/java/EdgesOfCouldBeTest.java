@@ -31,6 +31,7 @@ public final class EdgesOfCouldBeTest {
         playOfOneBeat();
         playOfSevenBeats();
         playOfLikeOrders();
+        playReadAnew();
         oddsNumbers();
         oddsOfNever();
         oddsOfEver();
@@ -107,6 +108,9 @@ public final class EdgesOfCouldBeTest {
         reached(Check.told("l0 0 1;s0 3 0 1;"), 1, 20, 0, 0);
         // Limb 0 is down at lift 0 alone, and there limb 1 at tilt 0 alone; lower and on at tilt 1 is out of bounds.
         reached(Check.told("l0 0 1;l0 9 1;s0 3 0 1;s1 6 0 1;s1 0 0 1;u20;t4;"), 3, 21, 0, 0);
+        // One step lower would do as well as one tilt back, and would be the least lift.
+        reached(Check.told("l0 0 1;s0 4 0 1;s0 2 0 1;u0;t4;"), 1, 1, 0, 0);
+        reached(Check.told("l0 0 1;s0 4 0 1;s0 2 0 1;u0;t2;"), 1, 1, 0, 0);
         reached(Check.told("l0 0 1;l0 9 1;s1 6 40 1;"), 0, NONE, NONE, NONE);
         reached(Check.told("l0 0 1;l0 9 1;s1 0 40 1;"), 0, NONE, NONE, NONE);
         reached(Check.told("l0 0 1;s0 6 29 1;"), 0, 4, 21, 3);
@@ -343,6 +347,16 @@ public final class EdgesOfCouldBeTest {
         played(Check.told("b21 3;b22 3;b19 3;b18 3;"), 6, 0, 1, 2, 3);
         played(Check.told("b40 3;b30 3;b30 3;u25;"), 15, 1, 2, 0);
         played(Check.told("b7 1;".repeat(7)), 15, 0, 1, 2, 3, 4, 5, 6);
+    }
+
+    private static void playReadAnew() {
+        CHECK.sentence("PLAY: of all BEATS (of a text read anew, fewer)");
+        PuppetBar bar = Check.told("b0 3;b20 3;b40 3;b40 3;b40 3;b40 3;b40 3;");
+        played(bar, 60, 0, 1, 2, 3, 4, 5, 6);
+        Check.read(bar, "b35 3;b20 3;b10 3;");
+        played(bar, 35, 1, 2, 0);
+        Check.read(bar, "b20 3;");
+        played(bar, 0, 0);
     }
 
     private static void chance(PuppetBar bar, int x, int upper, int lower) {

@@ -462,6 +462,8 @@ public final class EdgesOfDoneTest {
             Check.told(limbs + "s0 6 0 1;s1 5 0 1;s2 4 0 1;s3 3 0 1;s4 2 0 1;s5 1 0 1;").now(7), 15);
         CHECK.due("none of six",
             Check.told(limbs + "s0 1 0 1;s1 2 0 1;s2 3 0 1;s3 4 0 1;s4 5 0 1;s5 6 0 1;").now(7), 0);
+        CHECK.due("none of six, whatever their lengths",
+            Check.told(limbs + "s0 1 40 9;s1 2 9 1;s2 3 9 1;s3 4 9 1;s4 5 9 1;s5 6 9 1;").now(7), 0);
     }
 
     private static void crossedLikeOnes() {

@@ -282,6 +282,7 @@ public final class EdgesOfSeenTest {
         CHECK.due("a new one", new PuppetBar().look(), NONE);
         CHECK.due("beats alone", Check.told("b0 0;u1;t1;").look(), NONE);
         CHECK.due("a limb without strings", Check.told("l0 0 1;").look(), 0);
+        CHECK.due("a limb with all seven suspects alike", Check.told(SIX_STRINGS).look(), 0);
     }
 
     private static void lookWithOneSuspect() {

@@ -285,7 +285,9 @@ public final class EdgesOfTextTest {
             }
         }
         for (int d = 0; d <= 9; d++) {
-            CHECK.due("each digit", Check.told("u3" + (d == 0 ? "" : "0") + ";b" + d + " 0;").beat(0, 0), d);
+            PuppetBar bar = Check.told("b" + d + " 0;b3" + d + " 0;");
+            CHECK.due("each digit alone", bar.beat(0, 0), d);
+            CHECK.due("each digit behind another", bar.beat(1, 0), 30 + d);
         }
     }
 

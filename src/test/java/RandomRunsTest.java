@@ -1,21 +1,14 @@
-import java.util.ArrayList;
-import java.util.List;
 import java.util.Random;
 
 /** Promises 1 to 33: random runs of calls, of the same numbers each time, against the literal model. */
 public final class RandomRunsTest {
     private static final int RUNS = 1500;
-    private static final int CALLS = 512;
+    /** An object is good for 512 calls; one round makes 12 at most, or types a text while there is room for it. */
+    private static final int CALLS = 500;
     private static final int REACH = 16;
-    private static final String[] NAMES = {"type", "clear", "puppet", "limb", "string", "beat", "far", "lifts",
-        "tilts", "cuts", "ties", "hangs", "holds", "beats", "undo", "now", "reach", "fell", "path", "nods", "play",
-        "odds", "saw", "forget", "suspects", "holes", "look", "mark", "keep", "back", "count", "trace"};
 
     private final Random random;
-    private final PuppetBar bar = new PuppetBar();
-    private final Model model = new Model();
-    private final List<String> told = new ArrayList<>();
-    private int calls;
+    private final Pair pair = new Pair();
 
     private RandomRunsTest(int seed) {
         random = new Random(seed);
@@ -26,7 +19,7 @@ public final class RandomRunsTest {
         for (int seed = 0; seed < RUNS; seed++) {
             RandomRunsTest run = new RandomRunsTest(seed);
             if (!run.goesWell()) {
-                check.due("run " + seed + " " + run.told, 0, 1);
+                check.due("run " + seed + " " + run.pair.told(), 0, 1);
                 break;
             }
             check.due("run " + seed, 1, 1);
@@ -35,19 +28,20 @@ public final class RandomRunsTest {
     }
 
     private boolean goesWell() {
-        if (!types(puppetText()) || !same(2, 0, 0, 0)) {
+        if (!pair.types(puppetText()) || !pair.same(2, 0, 0, 0)) {
             return false;
         }
-        while (calls < CALLS) {
+        while (pair.calls() < CALLS) {
             int which = random.nextInt(1000);
             boolean well;
-            if (which < 4 && calls < 300) {
-                well = types(random.nextInt(3) == 0 ? spoilt(puppetText()) : puppetText()) && same(2, 0, 0, 0);
+            if (which < 4 && pair.calls() < 300) {
+                String text = random.nextInt(3) == 0 ? spoilt(puppetText()) : puppetText();
+                well = pair.types(text) && pair.same(2, 0, 0, 0);
             } else if (which < 40) {
                 well = seesWhatCouldBe();
             } else {
-                int call = which % NAMES.length;
-                well = same(call, call == REACH ? groundSet() : number(), number(), number());
+                int call = which % Pair.NAMES.length;
+                well = pair.same(call, call == REACH ? groundSet() : number(), number(), number());
             }
             if (!well) {
                 return false;
@@ -58,11 +52,11 @@ public final class RandomRunsTest {
 
     /** Mostly a set that some place of the bar has on the ground; else reach() would nearly always find none. */
     private int groundSet() {
-        int limbs = bar.count(0);
+        int limbs = pair.model.count(0);
         if (random.nextInt(4) == 0) {
             return random.nextInt(2 + (1 << limbs)) - 1;
         }
-        return model.groundAt(random.nextInt(41), random.nextInt(7) - 3);
+        return pair.model.groundAt(random.nextInt(41), random.nextInt(7) - 3);
     }
 
     private int number() {
@@ -78,36 +72,26 @@ public final class RandomRunsTest {
 
     /** Heights as they would be with one string cut or hung elsewhere, so that there is something to suspect. */
     private boolean seesWhatCouldBe() {
-        int strings = bar.count(1);
-        int limbs = bar.count(0);
+        int strings = pair.model.count(1);
+        int limbs = pair.model.count(0);
         if (strings == 0 || limbs == 0) {
             return true;
         }
         int s = random.nextInt(strings);
-        if (!same(23, 0, 0, 0) || !same(28, 0, 0, 0)) {
+        if (!pair.same(23, 0, 0, 0) || !pair.same(28, 0, 0, 0)) {
             return false;
         }
-        boolean well = random.nextBoolean() ? same(9, s, 0, 0) : same(11, s, random.nextInt(7), 0);
+        boolean well = random.nextBoolean() ? pair.same(9, s, 0, 0) : pair.same(11, s, random.nextInt(7), 0);
         int l = random.nextInt(limbs);
         int k = random.nextInt(limbs);
-        int heightOfL = bar.limb(l, 3);
-        int heightOfK = bar.limb(k, 3);
-        calls += 4;
-        return well && same(29, 0, 0, 0) && same(22, l, heightOfL, 0) && same(24, 0, 0, 0) && same(25, s, 0, 0)
-            && same(26, 0, 0, 0) && same(22, k, heightOfK, 0) && same(24, 0, 0, 0) && same(25, s, 0, 0)
-            && same(26, 0, 0, 0);
+        int heightOfL = pair.model.limb(l, 3);
+        int heightOfK = pair.model.limb(k, 3);
+        return well && pair.same(29, 0, 0, 0) && sees(l, heightOfL, s) && sees(k, heightOfK, s);
     }
 
-    private boolean types(String text) {
-        if (!same(1, 0, 0, 0)) {
-            return false;
-        }
-        for (int i = 0; i < text.length(); i++) {
-            if (!same(0, text.charAt(i), 0, 0)) {
-                return false;
-            }
-        }
-        return true;
+    private boolean sees(int l, int height, int s) {
+        return pair.same(22, l, height, 0) && pair.same(24, 0, 0, 0) && pair.same(25, s, 0, 0)
+            && pair.same(26, 0, 0, 0);
     }
 
     private String gap() {
@@ -166,87 +150,5 @@ public final class RandomRunsTest {
             }
         }
         return s.toString();
-    }
-
-    private boolean same(int call, int a, int b, int c) {
-        calls++;
-        long got = ofBar(call, a, b, c);
-        long due = ofModel(call, a, b, c);
-        told.add(NAMES[call] + "(" + a + " " + b + " " + c + ")=" + got + (got == due ? "" : " DUE " + due));
-        return got == due;
-    }
-
-    private long ofBar(int call, int a, int b, int c) {
-        switch (call) {
-            case 0: return bar.type(a);
-            case 1: return bar.clear();
-            case 2: return bar.puppet();
-            case 3: return bar.limb(a, b);
-            case 4: return bar.string(a, b);
-            case 5: return bar.beat(a, b);
-            case 6: return bar.far(a, b);
-            case 7: return bar.lifts(a);
-            case 8: return bar.tilts(a);
-            case 9: return bar.cuts(a);
-            case 10: return bar.ties(a, b, c);
-            case 11: return bar.hangs(a, b);
-            case 12: return bar.holds();
-            case 13: return bar.beats(a);
-            case 14: return bar.undo();
-            case 15: return bar.now(a);
-            case 16: return bar.reach(a, b);
-            case 17: return bar.fell(a);
-            case 18: return bar.path(a, b);
-            case 19: return bar.nods(a);
-            case 20: return bar.play(a);
-            case 21: return bar.odds(a, b, c);
-            case 22: return bar.saw(a, b);
-            case 23: return bar.forget();
-            case 24: return bar.suspects();
-            case 25: return bar.holes(a);
-            case 26: return bar.look();
-            case 27: return bar.mark(a, b);
-            case 28: return bar.keep(a);
-            case 29: return bar.back(a);
-            case 30: return bar.count(a);
-            default: return bar.trace();
-        }
-    }
-
-    private long ofModel(int call, int a, int b, int c) {
-        switch (call) {
-            case 0: return model.type(a);
-            case 1: return model.clear();
-            case 2: return model.puppet();
-            case 3: return model.limb(a, b);
-            case 4: return model.string(a, b);
-            case 5: return model.beat(a, b);
-            case 6: return model.far(a, b);
-            case 7: return model.lifts(a);
-            case 8: return model.tilts(a);
-            case 9: return model.cuts(a);
-            case 10: return model.ties(a, b, c);
-            case 11: return model.hangs(a, b);
-            case 12: return model.holds();
-            case 13: return model.beats(a);
-            case 14: return model.undo();
-            case 15: return model.now(a);
-            case 16: return model.reach(a, b);
-            case 17: return model.fell(a);
-            case 18: return model.path(a, b);
-            case 19: return model.nods(a);
-            case 20: return model.play(a);
-            case 21: return model.odds(a, b, c);
-            case 22: return model.saw(a, b);
-            case 23: return model.forget();
-            case 24: return model.suspects();
-            case 25: return model.holes(a);
-            case 26: return model.look();
-            case 27: return model.mark(a, b);
-            case 28: return model.keep(a);
-            case 29: return model.back(a);
-            case 30: return model.count(a);
-            default: return model.trace();
-        }
     }
 }
