@@ -31,6 +31,7 @@ public final class EdgesOfSeenTest {
         lookWithOneSuspect();
         lookOfLikeOnes();
         lookTheLast();
+        lookAtOneThatWasSeen();
         CHECK.end();
     }
 
@@ -329,5 +330,17 @@ public final class EdgesOfSeenTest {
         PuppetBar first = Check.told("l0 0 1;l0 9 1;s0 3 0 1;s0 3 1 1;s1 3 9 1;");
         CHECK.due("suspects", first.suspects(), 71);
         CHECK.due("limb 0 leaves three, limb 1 four", first.look(), 0);
+    }
+
+    private static void lookAtOneThatWasSeen() {
+        CHECK.sentence("LOOK: of like ones the lowest (SEEN ones, too)");
+        PuppetBar bar = Check.told("l0 0 1;l0 1 1;s0 3 0 1;");
+        bar.saw(0, 20);
+        CHECK.due("as it is, alone", bar.suspects(), 64);
+        CHECK.due("the lowest limb, though it was seen", bar.look(), 0);
+        PuppetBar one = Check.told("l0 0 1;s0 3 20 1;");
+        one.saw(0, 0);
+        CHECK.due("string 0, and as it is", one.suspects(), 65);
+        CHECK.due("the only limb, though it was seen", one.look(), 0);
     }
 }

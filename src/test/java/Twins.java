@@ -2,9 +2,9 @@ import java.util.ArrayList;
 import java.util.List;
 
 /**
- * Two new objects with the same past, of which only one is asked one thing more. Whether that changed anything is
- * looked for in all that either answers behind it. Each view has twins of its own, for some views change things
- * themselves, and an object is good for 512 calls.
+ * Two new objects with a past each, and whether both answer alike: all that either answers is written into a log, view
+ * by view, and the logs are compared. Each view has twins of its own, for some views change things themselves, and an
+ * object is good for 512 calls.
  */
 final class Twins {
     /** Eight limbs, six strings, seven beats, lift and tilt: all that a text can tell, in 157 bytes. */
@@ -20,8 +20,27 @@ final class Twins {
         long on(PuppetBar bar);
     }
 
-    private interface View {
+    private interface Answers {
         void of(PuppetBar bar, List<String> log);
+    }
+
+    /** Each line of a log begins with its view's name: "STEPS undo = 3". */
+    enum View {
+        PUPPET(Twins::puppet), COULD_BE(Twins::couldBe), SEEN(Twins::seen), MARKS(Twins::marks), STEPS(Twins::steps),
+        IMAGE_0((bar, log) -> image(bar, log, 0)), IMAGE_1((bar, log) -> image(bar, log, 1)), TEXT(Twins::text);
+
+        private final Answers answers;
+
+        View(Answers answers) {
+            this.answers = answers;
+        }
+
+        private List<String> of(PuppetBar bar) {
+            List<String> lines = new ArrayList<>();
+            answers.of(bar, lines);
+            lines.replaceAll(line -> this + " " + line);
+            return lines;
+        }
     }
 
     private Twins() { }
@@ -52,31 +71,57 @@ final class Twins {
 
     /** The call answers what is due, and all other calls answer as if it had not been. */
     static void unchanged(Check check, String name, Deeds past, Call call, long due) {
-        View[] views = {Twins::puppet, Twins::couldBe, Twins::seen, Twins::steps, Twins::imageZero, Twins::imageOne,
-            Twins::text};
-        for (View view : views) {
-            PuppetBar asked = new PuppetBar();
-            past.on(asked);
-            check.due(name, call.on(asked), due);
-            PuppetBar twin = new PuppetBar();
-            past.on(twin);
-            compare(check, name, look(view, asked), look(view, twin));
+        Deeds asked = bar -> {
+            past.on(bar);
+            check.due(name, call.on(bar), due);
+        };
+        compare(check, "behind " + name + " all is as it was", asked, past);
+    }
+
+    /** As above, but that lines which begin so do change; and each of these beginnings has a line that does. */
+    static void changesOnly(Check check, String name, Deeds past, Deeds call, String... begins) {
+        Deeds asked = bar -> {
+            past.on(bar);
+            call.on(bar);
+        };
+        compare(check, "behind " + name + " all else is as it was", asked, past, begins);
+        for (String begin : begins) {
+            boolean changed = false;
+            for (View view : View.values()) {
+                changed |= !only(begin, look(view, asked)).equals(only(begin, look(view, past)));
+            }
+            check.isTrue("behind " + name + " " + begin + " is another", changed);
         }
     }
 
-    private static List<String> look(View view, PuppetBar bar) {
-        List<String> log = new ArrayList<>();
-        view.of(bar, log);
-        return log;
+    /** Both answer alike, but for lines that begin so. */
+    static void compare(Check check, String name, Deeds one, Deeds other, String... but) {
+        for (View view : View.values()) {
+            List<String> got = look(view, one);
+            List<String> due = look(view, other);
+            for (String begin : but) {
+                got.removeAll(only(begin, got));
+                due.removeAll(only(begin, due));
+            }
+            String first = "";
+            for (int i = 0; i < due.size() && first.isEmpty(); i++) {
+                String now = i < got.size() ? got.get(i) : "nothing";
+                first = now.equals(due.get(i)) ? "" : "; " + now + ", due is " + due.get(i);
+            }
+            check.isTrue(name + first, got.equals(due));
+        }
     }
 
-    private static void compare(Check check, String name, List<String> got, List<String> due) {
-        String first = "";
-        for (int i = 0; i < due.size() && first.isEmpty(); i++) {
-            String now = i < got.size() ? got.get(i) : "nothing";
-            first = now.equals(due.get(i)) ? "" : now + ", was " + due.get(i);
-        }
-        check.isTrue("behind " + name + " all is as it was; " + first, got.equals(due));
+    private static List<String> look(View view, Deeds past) {
+        PuppetBar bar = new PuppetBar();
+        past.on(bar);
+        return view.of(bar);
+    }
+
+    private static List<String> only(String begin, List<String> lines) {
+        List<String> found = new ArrayList<>(lines);
+        found.removeIf(line -> !line.startsWith(begin));
+        return found;
     }
 
     private static void add(List<String> log, String call, long answer) {
@@ -143,6 +188,14 @@ final class Twins {
         add(log, "forget", bar.forget());
     }
 
+    private static void marks(PuppetBar bar, List<String> log) {
+        for (int l = 0, limbs = bar.count(0); l < limbs; l++) {
+            for (int kind = 0; kind <= 5; kind++) {
+                add(log, "mark " + kind + " " + l, bar.mark(kind, l));
+            }
+        }
+    }
+
     private static void pose(PuppetBar bar, List<String> log) {
         for (int what = 0; what <= 2; what++) {
             add(log, "now " + what, bar.now(what));
@@ -161,13 +214,8 @@ final class Twins {
         }
     }
 
-    private static void imageZero(PuppetBar bar, List<String> log) {
-        add(log, "back 0", bar.back(0));
-        steps(bar, log);
-    }
-
-    private static void imageOne(PuppetBar bar, List<String> log) {
-        add(log, "back 1", bar.back(1));
+    private static void image(PuppetBar bar, List<String> log, int image) {
+        add(log, "back " + image, bar.back(image));
         steps(bar, log);
     }
 
