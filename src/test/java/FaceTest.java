@@ -9,16 +9,16 @@ import java.util.ArrayList;
 import java.util.Arrays;
 import java.util.List;
 import java.util.Map;
+import java.util.Set;
 import java.util.TreeMap;
 import java.util.TreeSet;
-import java.util.Set;
 import java.util.regex.Matcher;
 import java.util.regex.Pattern;
 import java.util.stream.Collectors;
 
 /**
- * The public face as the document writes it out, line by line, and rule 1 of the language: nothing beside it can be seen
- * from outside (run from the project's folder, as .ci/run does).
+ * The public face as the document writes it out, line by line, and rule 1 of the language: nothing beside it can be
+ * seen from outside (run from the project's folder, as .ci/run does).
  */
 public final class FaceTest {
     private static final Check CHECK = new Check("FaceTest");

@@ -1,6 +1,6 @@
 /**
- * What a call changes is what its promise says, and nothing else: behind each call all others answer as a twin does that
- * was not asked it, but for what it is there to change.
+ * What a call changes is what its promise says, and nothing else: behind each call all others answer as a twin does
+ * that was not asked it, but for what it is there to change.
  */
 public final class OnlyTest {
     private static final Check CHECK = new Check("OnlyTest");
@@ -149,7 +149,8 @@ public final class OnlyTest {
 
     private static void readAnew() {
         CHECK.sentence("(Read anew: as told, nothing CUT, SEEN or to be UNDONE, IMAGES are gone.)");
-        for (String text : new String[] {"", "b40 6;", "l0 0 9;s0 6 3 2;b0 0;", "l0 0 1;l0 9 2;s1 0 40 1;u40;t6;", TEXT}) {
+        String[] texts = {"", "b40 6;", "l0 0 9;s0 6 3 2;b0 0;", "l0 0 1;l0 9 2;s1 0 40 1;u40;t6;", TEXT};
+        for (String text : texts) {
             Twins.compare(CHECK, "'" + text + "' told behind another", bar -> {
                 settled(bar);
                 CHECK.isTrue("it has no fault", Check.read(bar, text) >= 0);
